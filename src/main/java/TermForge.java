@@ -334,7 +334,7 @@ public final class TermForge {
         boolean unify(int a, int b) {
             waiting = 0;
             await(a, b);
-            for (int at = 0; at < waiting; at++) {
+            for (int at = 0; at < waiting && at < MOST_WAITING; at++) {
                 if (!mergeTwo(rootOf(waitingOne[at]), rootOf(waitingOther[at]))) {
                     return false;
                 }
@@ -342,10 +342,10 @@ public final class TermForge {
             return true;
         }
 
+        /** Cuts the latest merges off, the latest first; a shape that both classes show came with the merge. */
         void goBack(int mergesBefore) {
-            while (merges > mergesBefore) {
-                merges--;
-                int light = merged[merges];
+            for (int at = merges - 1; at >= mergesBefore; at--) {
+                int light = merged[at];
                 int heavy = parent[light];
                 parent[light] = light;
                 weight[heavy] -= weight[light];
@@ -353,6 +353,7 @@ public final class TermForge {
                     shape[heavy] = NONE;
                 }
             }
+            merges = mergesBefore;
         }
 
         /** Each merge takes a class away, so no more than three pairs a term ever wait. */
@@ -402,7 +403,10 @@ public final class TermForge {
         }
     }
 
-    /** The different trees, each once: the finite ones first, then those without end. */
+    /**
+     * The different trees, each once: the finite ones first, then those without end. Each is the tree of
+     * some class of terms, so there are never more of them than terms.
+     */
     private static final class Trees {
         private static final int BUCKETS = 512;
 
@@ -650,7 +654,7 @@ public final class TermForge {
             Arrays.fill(listed, (byte) 0);
             count = 0;
             add(top);
-            for (int at = 0; at < count; at++) {
+            for (int at = 0; at < count && at < MOST_TERMS; at++) {
                 int tree = list[at];
                 int n = countBelow(trees.heads[tree]);
                 for (int k = 0; k < n; k++) {
@@ -697,7 +701,7 @@ public final class TermForge {
             Arrays.fill(partner, NONE);
             count = 0;
             pair(general, special);
-            for (int at = 0; at < count; at++) {
+            for (int at = 0; at < count && at < MOST_TERMS; at++) {
                 if (!matchesBelow(list[at])) {
                     return false;
                 }
@@ -757,7 +761,7 @@ public final class TermForge {
             count = 0;
             leaves = 0;
             add(one, other);
-            for (int at = 0; at < count; at++) {
+            for (int at = 0; at < count && at < MOST_PAIRS; at++) {
                 visit(list[at] / MOST_TERMS, list[at] % MOST_TERMS);
             }
         }

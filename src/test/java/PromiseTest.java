@@ -610,6 +610,12 @@ public final class PromiseTest {
         Check.due("above one without end", x.text(two(x, 0, a, e)), -1);
         Check.due("OUT stays", written(x), "S15(V1,S0(S10),V1)");
 
+        TermForge z = new TermForge();
+        int early = z.variable();
+        z.join(early, constant(z, 1));
+        int late = z.variable();
+        dueText(z, two(z, 2, late, early), "S2(V2,S1)");
+
         TermForge y = new TermForge();
         for (int k = 0; k < 300; k++) {
             y.variable();
