@@ -9,8 +9,20 @@ final class Check {
 
     private static int wrong = 0;
     private static int asked = 0;
+    private static String test = "";
 
     private Check() {
+    }
+
+    /** Runs a test whose name then stands before all that it reports; what it throws is wrong too. */
+    static void test(String name, Runnable body) {
+        test = name + ": ";
+        try {
+            body.run();
+        } catch (RuntimeException e) {
+            report("threw " + e);
+        }
+        test = "";
     }
 
     static void due(String call, long got, long want) {
@@ -64,7 +76,7 @@ final class Check {
     static void report(String what) {
         wrong++;
         if (wrong <= 50) {
-            System.out.println(what);
+            System.out.println(test + what);
         }
     }
 
