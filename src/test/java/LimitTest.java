@@ -18,6 +18,7 @@ public final class LimitTest {
         allPairs();
         mergeAll();
         manyDifferent();
+        thirdPlaceAlone();
         manyHeads();
         deepLevels();
         callsBeyondTheLast();
@@ -219,6 +220,20 @@ public final class LimitTest {
             y.sign(3, 3, k / 36, k / 6 % 6, k % 6);
         }
         Check.due("all ways to put three of six", y.look(3), 222);
+    }
+
+    /** Whatever the sign and the first two below: a search that left the third out would seldom be wrong. */
+    private static void thirdPlaceAlone() {
+        for (int sign = 0; sign <= 15; sign++) {
+            for (int first = 0; first < 250; first += 2) {
+                TermForge x = Build.variables(250);
+                for (int k = 0; k < 25; k++) {
+                    Build.three(x, sign, first, first, k);
+                    Build.three(x, sign, first, first, 249 - k);
+                }
+                Check.due("sign " + sign + " above " + first + " twice and each of 50", x.look(3), 300);
+            }
+        }
     }
 
     private static void manyHeads() {
