@@ -238,7 +238,8 @@ public final class TermForge {
     private static final class Terms {
         int count = 0;
         final int[] heads = new int[MOST_TERMS];
-        private final int[] below = new int[MOST_TERMS * MOST_BELOW];
+        /** Three places a term, of which the first ones that its head counts are used. */
+        final int[] below = new int[MOST_TERMS * MOST_BELOW];
 
         /** The caller has seen that there is room. */
         int add(int head, int a, int b, int c) {
@@ -249,10 +250,6 @@ public final class TermForge {
             below[term * MOST_BELOW + 2] = c;
             count++;
             return term;
-        }
-
-        int below(int term, int k) {
-            return below[term * MOST_BELOW + k];
         }
     }
 
@@ -388,7 +385,7 @@ public final class TermForge {
         private void awaitBelow(int one, int other) {
             int n = countBelow(terms.heads[one]);
             for (int k = 0; k < n; k++) {
-                await(terms.below(one, k), terms.below(other, k));
+                await(terms.below[one * MOST_BELOW + k], terms.below[other * MOST_BELOW + k]);
             }
         }
 
@@ -635,7 +632,7 @@ public final class TermForge {
         }
 
         private int treeBelow(int term, int k) {
-            return ofClass[roots[terms.below(term, k)]];
+            return ofClass[roots[terms.below[term * MOST_BELOW + k]]];
         }
     }
 
@@ -742,28 +739,55 @@ public final class TermForge {
      * the other that stand at the same place. A pair with the same head is a node, any other a leaf.
      * Both trees of a pair come back if the leaves are put back, so different pairs are different
      * trees, and counting pairs is enough.
+     *
+     * <p>There may be as many as 90000 pairs, so each is a bit: a row of them for each tree of the
+     * one. Rows wait to be visited, not pairs, which keeps what waits short too.
      */
     private static final class Pairs {
         private static final int MOST_PAIRS = MOST_TERMS * MOST_TERMS;
+        private static final int BITS = 64;
+        private static final int WORDS = MOST_TERMS / BITS + 1;
 
         int count = 0;
         int leaves = 0;
         private final Trees trees;
-        private final int[] list = new int[MOST_PAIRS];
-        private final long[] listed = new long[MOST_PAIRS / 64 + 1];
+        private final long[] met = new long[MOST_TERMS * WORDS];
+        private final long[] open = new long[MOST_TERMS * WORDS];
+        private final int[] rows = new int[MOST_TERMS];
+        private final byte[] waits = new byte[MOST_TERMS];
+        private int waiting = 0;
 
         Pairs(Trees trees) {
             this.trees = trees;
         }
 
+        /** A row comes to wait only with a pair that was not met before, so no more rows than pairs do. */
         void walk(int one, int other) {
-            Arrays.fill(listed, 0L);
+            Arrays.fill(met, 0L);
             count = 0;
             leaves = 0;
             add(one, other);
-            for (int at = 0; at < count && at < MOST_PAIRS; at++) {
-                visit(list[at] / MOST_TERMS, list[at] % MOST_TERMS);
+            for (int step = 0; step < MOST_PAIRS && waiting > 0; step++) {
+                waiting--;
+                int row = rows[waiting];
+                waits[row] = 0;
+                visitRow(row);
             }
+        }
+
+        private void visitRow(int row) {
+            for (int word = 0; word < WORDS; word++) {
+                long bits = open[row * WORDS + word];
+                open[row * WORDS + word] = 0L;
+                for (int step = 0; step < BITS && bits != 0L; step++) {
+                    visit(row, word * BITS + placeOfLowest(bits));
+                    bits &= bits - 1L;
+                }
+            }
+        }
+
+        private static int placeOfLowest(long bits) {
+            return Long.bitCount((bits & -bits) - 1L);
         }
 
         private void visit(int one, int other) {
@@ -779,20 +803,26 @@ public final class TermForge {
         }
 
         private void add(int one, int other) {
-            int pair = one * MOST_TERMS + other;
-            long bit = 1L << (pair & 63);
-            if ((listed[pair >> 6] & bit) == 0L) {
-                listed[pair >> 6] |= bit;
-                list[count] = pair;
-                count++;
+            int at = one * WORDS + other / BITS;
+            long bit = 1L << (other % BITS);
+            if ((met[at] & bit) != 0L) {
+                return;
+            }
+            met[at] |= bit;
+            open[at] |= bit;
+            count++;
+            if (waits[one] == 0) {
+                waits[one] = 1;
+                rows[waiting] = one;
+                waiting++;
             }
         }
     }
 
     /** OUT, and the draft that becomes OUT if it is not too long. */
     private static final class Writing {
-        /** Each step takes one away and leaves at most six. */
-        private static final int MOST_WAITING = 1 + 6 * (MOST_BYTES + 1);
+        /** A step begins with no more waiting than bytes fit, takes one away and leaves at most six. */
+        private static final int MOST_WAITING = MOST_BYTES + 5;
 
         int length = 0;
         private final Trees trees;
@@ -806,16 +836,16 @@ public final class TermForge {
             this.trees = trees;
         }
 
-        /** Each step writes a byte or more, so the steps end when the draft must be too long. */
+        /** All that waits writes a byte or more, so the steps end when the draft must become too long. */
         boolean write(int top) {
             draftLength = 0;
             waitingCount = 0;
             await(top);
-            for (int step = 0; step <= MOST_BYTES && waitingCount > 0; step++) {
+            for (int step = 0; step < MOST_BYTES && mayFit() && waitingCount > 0; step++) {
                 waitingCount--;
                 writeNext(waiting[waitingCount]);
             }
-            if (draftLength > MOST_BYTES) {
+            if (!mayFit()) {
                 return false;
             }
             System.arraycopy(draft, 0, bytes, 0, draftLength);
@@ -829,6 +859,10 @@ public final class TermForge {
                 eight = (eight << 8) | (k + at < length ? bytes[k + at] & 0xffL : 0L);
             }
             return eight;
+        }
+
+        private boolean mayFit() {
+            return draftLength + waitingCount <= MOST_BYTES;
         }
 
         /** What waits is a tree's number, or a byte below zero. */

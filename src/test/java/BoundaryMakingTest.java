@@ -1,8 +1,3 @@
-import java.lang.reflect.Field;
-import java.lang.reflect.Modifier;
-import java.util.ArrayDeque;
-import java.util.Collections;
-import java.util.IdentityHashMap;
 import java.util.Set;
 
 /**
@@ -399,7 +394,7 @@ public final class BoundaryMakingTest {
     /** Terms: "All memory is the class's own, made once." */
     private static void memoryMadeOnce() {
         TermForge x = new TermForge();
-        Set<Object> before = held(x);
+        Set<Object> before = Held.by(x);
         int top = x.variable();
         for (int k = 1; k < 300; k++) {
             top = Build.two(x, 0, top, k - 1);
@@ -419,49 +414,9 @@ public final class BoundaryMakingTest {
             x.look(3);
             x.undo();
         }
-        Set<Object> after = held(x);
+        Set<Object> after = Held.by(x);
         boolean same = before.containsAll(after) && after.containsAll(before);
         Check.due("the same objects and arrays before and after", same, true);
-    }
-
-    /** All objects and arrays that an object holds, by which they are. */
-    private static Set<Object> held(TermForge x) {
-        Set<Object> found = Collections.newSetFromMap(new IdentityHashMap<>());
-        ArrayDeque<Object> open = new ArrayDeque<>();
-        found.add(x);
-        open.add(x);
-        while (!open.isEmpty()) {
-            Object next = open.remove();
-            for (Object held : heldBy(next)) {
-                if (held != null && found.add(held)) {
-                    open.add(held);
-                }
-            }
-        }
-        return found;
-    }
-
-    private static Object[] heldBy(Object owner) {
-        if (owner.getClass().isArray()) {
-            return owner instanceof Object[] ? (Object[]) owner : new Object[0];
-        }
-        Field[] fields = owner.getClass().getDeclaredFields();
-        Object[] held = new Object[fields.length];
-        for (int k = 0; k < fields.length; k++) {
-            if (!fields[k].getType().isPrimitive() && !Modifier.isStatic(fields[k].getModifiers())) {
-                held[k] = valueOf(fields[k], owner);
-            }
-        }
-        return held;
-    }
-
-    private static Object valueOf(Field field, Object owner) {
-        try {
-            field.setAccessible(true);
-            return field.get(owner);
-        } catch (IllegalAccessException e) {
-            throw new IllegalStateException(e);
-        }
     }
 
     /** Promise 1: "No terms, no equations, level 0; OUT is empty." */

@@ -21,6 +21,7 @@ public final class LimitTest {
         thirdPlaceAlone();
         manyHeads();
         deepLevels();
+        room();
         callsBeyondTheLast();
         Check.end();
     }
@@ -268,6 +269,15 @@ public final class LimitTest {
         }
         Check.due("terms", x.look(0), 1);
         Check.due("equations", x.look(1), 0);
+    }
+
+    /** Making an object is the dearest call: even a run of 512 of them stays within 7.3 million elements. */
+    private static void room() {
+        TermForge x = new TermForge();
+        long elements = Held.elements(x);
+        Check.due("512 times " + elements + " elements fit", 512 * elements <= 7300000, true);
+        int objects = Held.by(x).size();
+        Check.due("512 times " + objects + " objects fit", 512 * objects <= 600000, true);
     }
 
     /** What they answer is free, but they throw nothing but what the document names. */
